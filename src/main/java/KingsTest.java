@@ -337,8 +337,7 @@ public final class KingsTest {
         if (!isTest(test) || heard < 0 || heard > MOST_TIMES) {
             return NONE;
         }
-        trial.copyFrom(state);
-        trial.forgetCase();
+        trial.clear();
         trial.times[test] = heard;
         worlds.weigh(court, trial);
         return worlds.share(worlds.rightOf(1 << test));
@@ -600,7 +599,7 @@ public final class KingsTest {
     }
 
     private int draw(int most) {
-        drawn = 1103515245 * drawn + 12345 & Integer.MAX_VALUE;
+        drawn = 1103515245 * drawn + 12345 & 0x7FFFFFFF;
         return most > 0 ? (drawn >> 6) % most : 0;
     }
 
@@ -1018,6 +1017,7 @@ public final class KingsTest {
         }
 
         private static int signResult(int sign, int one, int other) {
+            long result;
             switch (sign) {
                 case '<':
                     return one < other ? 1 : 0;
@@ -1026,18 +1026,19 @@ public final class KingsTest {
                 case '=':
                     return one == other ? 1 : 0;
                 case '+':
-                    return held((long) one + other);
+                    result = (long) one + other;
+                    break;
                 case '-':
-                    return held((long) one - other);
+                    result = (long) one - other;
+                    break;
                 case '*':
-                    return held((long) one * other);
+                    result = (long) one * other;
+                    break;
                 default:
-                    return other == 0 ? 0 : Math.floorDiv(one, other);
+                    result = other == 0 ? 0 : Math.floorDiv(one, other);
+                    break;
             }
-        }
-
-        private static int held(long number) {
-            return (int) Math.max(-MILLION, Math.min(MILLION, number));
+            return (int) Math.max(-MILLION, Math.min(MILLION, result));
         }
 
         private static int valueAt(int[] values, int k) {
@@ -1056,19 +1057,15 @@ public final class KingsTest {
             this.code = code;
         }
 
-        // the TEST of yields
-        void readRule(Code into) {
+        void writeTo(Code into, boolean forQuestion) {
             code = into;
             code.size = 0;
-            inQuestion = false;
-            readTest(0);
+            inQuestion = forQuestion;
         }
 
         // the word that the QUESTION begins with
         int readQuestion(Code into) {
-            code = into;
-            code.size = 0;
-            inQuestion = true;
+            writeTo(into, true);
             reader.begin();
             int asked = reader.wordHere();
             if (asked == FIRST || asked == LAST || asked == OFTEN) {
@@ -1086,7 +1083,7 @@ public final class KingsTest {
             return asked;
         }
 
-        private void readTest(int open) {
+        void readTest(int open) {
             readBoth(open);
             for (int i = 0; i < MOST_BYTES && reader.isAt(OR); i++) {
                 reader.next();
@@ -1119,19 +1116,15 @@ public final class KingsTest {
                 reader.next();
                 code.addNumber(1);
             } else {
-                readComparison(open);
-            }
-        }
-
-        private void readComparison(int open) {
-            readSum(open);
-            int sign = reader.value;
-            if (reader.isAtSign('<') || reader.isAtSign('>') || reader.isAtSign('=')) {
-                reader.next();
                 readSum(open);
-                code.addSign(sign);
-            } else {
-                reader.stop(1, reader.start);
+                int sign = reader.value;
+                if (reader.isAtSign('<') || reader.isAtSign('>') || reader.isAtSign('=')) {
+                    reader.next();
+                    readSum(open);
+                    code.addSign(sign);
+                } else {
+                    reader.stop(1, reader.start);
+                }
             }
         }
 
@@ -1287,13 +1280,9 @@ public final class KingsTest {
                 return 0;
             }
             int at = test * (MOST_TIMES + 1) + times;
-            if (yieldTable[at] == 0) {
-                yieldTable[at] = WORKED_OUT | workOut(test, times);
+            if (yieldTable[at] != 0) {
+                return yieldTable[at] & (WORKED_OUT - 1);
             }
-            return yieldTable[at] & (WORKED_OUT - 1);
-        }
-
-        private int workOut(int test, int times) {
             int bits = 0;
             ruleValues[HARM] = testRows[test][1];
             ruleValues[HEARD] = times;
@@ -1305,6 +1294,7 @@ public final class KingsTest {
                     bits |= rule.resultFor(ruleValues) << (kind * 2 + truth);
                 }
             }
+            yieldTable[at] = WORKED_OUT | bits;
             return bits;
         }
     }
@@ -1325,7 +1315,36 @@ public final class KingsTest {
             reader.begin();
             int statements = 0;
             while (statements < MOST_STATEMENTS && reader.goesOn()) {
-                readStatement(court);
+                switch (reader.wordHere()) {
+                    case KIND:
+                        readKind(court);
+                        break;
+                    case TEST:
+                        readTrial(court);
+                        break;
+                    case MARK:
+                        readMark(court);
+                        break;
+                    case YIELDS:
+                        if (court.hasRule) {
+                            reader.stop(5, reader.start);
+                            break;
+                        }
+                        reader.next();
+                        grammar.writeTo(court.rule, false);
+                        grammar.readTest(0);
+                        court.hasRule = true;
+                        break;
+                    case FIRST:
+                        court.first = takeBehind(FIRST, 1, 99);
+                        break;
+                    case PRICE:
+                        court.price = takeBehind(PRICE, 0, 9999);
+                        break;
+                    default:
+                        reader.stop(1, reader.start);
+                        break;
+                }
                 reader.takeSign(';');
                 statements++;
             }
@@ -1333,32 +1352,6 @@ public final class KingsTest {
                 reader.stop(5, reader.start);
             }
             return statements;
-        }
-
-        private void readStatement(Court court) {
-            switch (reader.wordHere()) {
-                case KIND:
-                    readKind(court);
-                    break;
-                case TEST:
-                    readTestRow(court);
-                    break;
-                case MARK:
-                    readMark(court);
-                    break;
-                case YIELDS:
-                    readYields(court);
-                    break;
-                case FIRST:
-                    court.first = takeBehind(FIRST, 1, 99);
-                    break;
-                case PRICE:
-                    court.price = takeBehind(PRICE, 0, 9999);
-                    break;
-                default:
-                    reader.stop(1, reader.start);
-                    break;
-            }
         }
 
         private void readKind(Court court) {
@@ -1376,7 +1369,7 @@ public final class KingsTest {
             court.kinds++;
         }
 
-        private void readTestRow(Court court) {
+        private void readTrial(Court court) {
             if (court.tests >= MOST_TESTS) {
                 reader.stop(5, reader.start);
                 return;
@@ -1399,16 +1392,6 @@ public final class KingsTest {
             row[1] = takeBehind(TRUE, 1, 9);
             row[2] = takeBehind(FALSE, 1, 9);
             court.marks++;
-        }
-
-        private void readYields(Court court) {
-            if (court.hasRule) {
-                reader.stop(5, reader.start);
-                return;
-            }
-            reader.next();
-            grammar.readRule(court.rule);
-            court.hasRule = true;
         }
 
         private int takeNewName(Court court) {
@@ -1552,7 +1535,13 @@ public final class KingsTest {
         private final long[] heapsOfOne = new long[1 << 2 * MOST_TESTS];
 
         void weigh(Court court, State state) {
-            setAnswers(court, state);
+            Arrays.fill(answers, 0);
+            for (int test = 0; test < court.tests; test++) {
+                int bits = court.yieldBits(test, state.times[test]);
+                for (int who = 0; who < 2 * MOST_KINDS; who++) {
+                    answers[who] |= (bits >> who & 1) << test;
+                }
+            }
             livingCount = 0;
             Arrays.fill(weights, 0);
             Arrays.fill(sums, 0);
@@ -1575,16 +1564,6 @@ public final class KingsTest {
                 sums[truth] += weight;
                 living[livingCount] = world;
                 livingCount++;
-            }
-        }
-
-        private void setAnswers(Court court, State state) {
-            Arrays.fill(answers, 0);
-            for (int test = 0; test < court.tests; test++) {
-                int bits = court.yieldBits(test, state.times[test]);
-                for (int who = 0; who < 2 * MOST_KINDS; who++) {
-                    answers[who] |= (bits >> who & 1) << test;
-                }
             }
         }
 

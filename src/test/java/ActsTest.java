@@ -13,6 +13,7 @@ public final class ActsTest {
         mostOfAll();
         keeping();
         bySeed();
+        bySeedWithAnswers();
         seedAlone();
         noSuchCase();
         notBySeed();
@@ -74,6 +75,9 @@ public final class ActsTest {
         due("25: with what was heard", x.hear(1, 0, 1), true);
         due("6: tests heard", x.has(6), 2);
         due("35: refused", x.status(2), 10);
+        x = Checks.made("kind a love 0 wit 0 true 1 false 1;test t harm 1;first 1;");
+        due("25: a WEIGHT of 1 is left", x.hear(0, 1, 0), true);
+        due("14: a WEIGHT of 1", x.odds(0), 1000000);
         due("25: no KIND, no WORLD", Checks.made("test t harm 1;").hear(0, 1, 0), false);
     }
 
@@ -191,7 +195,7 @@ public final class ActsTest {
     private static void bySeed() {
         KingsTest x = Checks.made(DEAR);
         due("18: best()", x.best(), 1);
-        x.hear(0, 1, 0);
+        due("25: hear", x.hear(1, 0, 1), true);
         x.look(0, 0, 1);
         due("28: chance(12)", x.chance(12), 11);
         due("6: ACTS", x.has(10), 3);
@@ -215,6 +219,15 @@ public final class ActsTest {
         due("28: two more", x.chance(2), 2);
         due("12: kept(5, 3)", x.kept(5, 3), 0);
         due("6: cases", x.has(4), 8);
+    }
+
+    private static void bySeedWithAnswers() {
+        KingsTest x = Checks.made("kind a love 9 wit 0 true 2 false 1;kind b love 1 wit 0 true 1 false 3;test t harm 5;price 0;"
+            + "yields truth=1 and love>5 or truth=0 and love<5;");
+        // just 0: 100 to 150; both: 300 each; none: 50 each; just 1: 150 to 100
+        due("17: merit(1)", x.merit(1), 541666);
+        due("18: best()", x.best(), 1);
+        dueCases(x, 0, 1, 0, 0, 0, 0, 0, 1, 1, 1, 1, 1, 0, 1, 0, 1, 0, 0, 0, 1, 1, 0, 0, 1, 1, 1, 1, 1);
     }
 
     private static void dueCases(KingsTest x, int... whomAndRight) {

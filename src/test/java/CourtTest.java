@@ -104,6 +104,24 @@ public final class CourtTest {
         due("4: refused", x.status(1), 0);
         due("4: the tape goes", x.feed(0, 0, 0, 0, 0), 20);
         due("4: a new COURT begins anew", begunAnew(), 0);
+        otherCourts();
+    }
+
+    private static void otherCourts() {
+        String both = "kind k love 9 wit 0 true 1 false 1;test t harm 1;";
+        KingsTest x = Checks.made(both + "price 9999;first 70;yields truth=1 and heard<3;");
+        due("11: by the first court", x.yields(0, 0, 1), 1);
+        due("17: by the first court", x.merit(1), 990001);
+        Checks.court(x, both + "yields truth=0;");
+        due("11: by the second court", x.yields(0, 0, 1), 0);
+        due("17: price 1000 without", x.merit(1), 999000);
+        Checks.dueAsked(x, "total number+harm", 1);
+        Checks.dueFault(x, both + "yields number=0;", 1, both.length() + 7);
+        Checks.court(x, both + "yields love>5;");
+        due("11: by the third court", x.yields(0, 0, 0), 1);
+        Checks.court(x, both);
+        due("11: without yields", x.yields(0, 0, 0), 0);
+        due("4: first 50 without", x.has(3), 50);
     }
 
     private static int begunAnew() {
@@ -279,6 +297,8 @@ public final class CourtTest {
         Checks.dueFault(x, "yields not not not [[[ (1)=1 ]]];", 4, 23);
         Checks.dueFault(x, "yields min(max(min(max(min(max(min(1", 4, 34);
         Checks.dueFault(x, "yields ((((((min 1", 1, 17);
+        Checks.dueFault(x, "yields min(1,((((((1", 4, 18);
+        due("4: six are open in the second SUM", Checks.court(x, "yields min(1,(((((1)))))+(((((1))))))=1;"), 1);
         due("4: not is open until its FACT ends", Checks.court(x, "yields not not not all and not not not not all and "
             + "[not not not (((1)))=1 - 1 and ((((1))))=1];"), -1);
         due("5: the fault of it", x.fault(0), 4);
@@ -305,6 +325,7 @@ public final class CourtTest {
         Checks.dueFault(x, "yields 1+all=1;", 1, 9);
         Checks.dueFault(x, "yields 1+not 1=1;", 1, 9);
         Checks.dueFault(x, "yields min 1", 1, 11);
+        Checks.dueFault(x, "yields min=1;", 1, 10);
         Checks.dueFault(x, "yields min(1)=1;", 1, 12);
         Checks.dueFault(x, "yields min(1,2,3)=1;", 1, 14);
         for (String word : new String[] {"number", "merit", "sure", "yields", "true", "k"}) {

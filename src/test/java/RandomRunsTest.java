@@ -107,9 +107,9 @@ public final class RandomRunsTest {
     private String court() {
         List<String> statements = new ArrayList<>();
         int names = 0;
-        int kinds = oneIn(12) ? roll(8) : 1 + roll(4);
-        int tests = oneIn(12) ? roll(8) : 1 + roll(4);
-        int marks = oneIn(12) ? roll(7) : roll(3);
+        int kinds = oneIn(9) ? roll(8) : oneIn(9) ? 6 : 1 + roll(4);
+        int tests = oneIn(9) ? roll(8) : oneIn(9) ? 6 : 1 + roll(4);
+        int marks = oneIn(9) ? roll(7) : oneIn(9) ? 5 : roll(3);
         int most = oneIn(8) ? 10 : 9;
         for (int i = 0; i < kinds; i++) {
             statements.add("kind k" + name(names++) + " love " + roll(100) + " wit " + roll(100) + " true "
@@ -316,57 +316,111 @@ public final class RandomRunsTest {
 
     private void look() {
         int kind = about(m.has(0));
-        int other = about(m.has(0));
         int test = about(m.has(1));
-        int mark = about(m.has(2));
         int bit = about(1);
         int what = about(3);
-        int sort = about(2);
-        int k = about(5);
-        due("letter", x.letter(sort, kind, k), m.letter(sort, kind, k));
-        due("kind", x.kind(kind, what), m.kind(kind, what));
-        due("test", x.test(test, what), m.test(test, what));
-        due("mark", x.mark(mark, what), m.mark(mark, what));
-        due("yields", x.yields(kind, test, bit), m.yields(kind, test, bit));
-        due("weight", x.weight(bit, kind, other), m.weight(bit, kind, other));
-        due("odds", x.odds(bit), m.odds(bit));
-        due("kinds", x.kinds(bit, kind), m.kinds(bit, kind));
-        due("would", x.would(bit, test), m.would(bit, test));
-        int set = oneIn(20) ? about(70) : roll(1 << m.has(1));
-        due("merit(" + set + ")", x.merit(set), m.merit(set));
-        due("best", x.best(), m.best());
-        due("parts(" + test + ", " + what + ")", x.parts(test, what), m.parts(test, what));
-        due("sure", x.sure(bit), m.sure(bit));
-        int times = oneIn(2) ? roll(5) : roll(102) - 1;
-        due("known(" + test + ", " + times + ")", x.known(test, times), m.known(test, times));
-        due("trick", x.trick(), m.trick());
-        int n = oneIn(6) ? roll(32) - 1 : roll(3);
-        due("ahead(" + n + ", " + what + ")", x.ahead(n, what), m.ahead(n, what));
+        switch (roll(6)) {
+            case 0:
+                int sort = about(2);
+                int k = about(5);
+                due("letter", x.letter(sort, kind, k), m.letter(sort, kind, k));
+                break;
+            case 1:
+                due("kind", x.kind(kind, what), m.kind(kind, what));
+                break;
+            case 2:
+                due("test", x.test(test, what), m.test(test, what));
+                break;
+            case 3:
+                int mark = about(m.has(2));
+                due("mark", x.mark(mark, what), m.mark(mark, what));
+                break;
+            case 4:
+                due("yields", x.yields(kind, test, bit), m.yields(kind, test, bit));
+                break;
+            default:
+                due("trick", x.trick(), m.trick());
+                break;
+        }
+    }
+
+    private void weigh() {
+        int kind = about(m.has(0));
+        int test = about(m.has(1));
+        int bit = about(1);
+        switch (roll(5)) {
+            case 0:
+                int other = about(m.has(0));
+                due("weight", x.weight(bit, kind, other), m.weight(bit, kind, other));
+                break;
+            case 1:
+                due("odds", x.odds(bit), m.odds(bit));
+                break;
+            case 2:
+                due("kinds", x.kinds(bit, kind), m.kinds(bit, kind));
+                break;
+            case 3:
+                due("would", x.would(bit, test), m.would(bit, test));
+                break;
+            default:
+                int times = oneIn(2) ? roll(5) : roll(102) - 1;
+                due("known(" + test + ", " + times + ")", x.known(test, times), m.known(test, times));
+                break;
+        }
+    }
+
+    private void choose() {
+        int what = about(3);
+        switch (roll(5)) {
+            case 0:
+                int set = oneIn(20) ? about(70) : roll(1 << m.has(1));
+                due("merit(" + set + ")", x.merit(set), m.merit(set));
+                break;
+            case 1:
+                due("best", x.best(), m.best());
+                break;
+            case 2:
+                int test = about(m.has(1));
+                due("parts(" + test + ", " + what + ")", x.parts(test, what), m.parts(test, what));
+                break;
+            case 3:
+                due("sure", x.sure(what), m.sure(what));
+                break;
+            default:
+                int n = oneIn(6) ? roll(32) - 1 : roll(3);
+                due("ahead(" + n + ", " + what + ")", x.ahead(n, what), m.ahead(n, what));
+                break;
+        }
     }
 
     private void go() {
         tellAll();
-        look();
         newCourt();
-        for (int i = 0; i < 40; i++) {
-            int which = roll(30);
+        for (int i = 0; i < 100; i++) {
+            int which = roll(36);
             if (which == 0) {
                 newCourt();
-            } else if (which < 12) {
+            } else if (which < 8) {
                 act();
-            } else if (which < 15) {
+            } else if (which < 11) {
                 question();
-            } else if (which < 17) {
+            } else if (which == 11) {
                 rows();
-            } else if (which == 17) {
+            } else if (which == 12) {
                 turnedOn();
-            } else if (which == 18) {
+            } else if (which == 13) {
                 int seed = oneIn(4) ? -1 - roll(9) : roll(Integer.MAX_VALUE);
                 due("seed", x.seed(seed), m.seed(seed));
-            } else {
+            } else if (which < 18) {
                 look();
+            } else if (which < 27) {
+                weigh();
+            } else {
+                choose();
             }
-            tellAll();
+            if (oneIn(3)) {
+                tellAll();
+            }
         }
     }
 }
