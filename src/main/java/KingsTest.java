@@ -25,6 +25,7 @@ public final class KingsTest {
     private static final int MOST_AHEAD = 30;
     private static final int MILLION = 1000000;
     private static final int NAME_LETTERS = 6;
+    private static final int FIRST_CHECK = 61;
     // 20 acts of 30 cases each may be undone, and 40 rows ahead of them are told again then
     private static final int KEPT_ROOM = 1024;
 
@@ -71,7 +72,7 @@ public final class KingsTest {
     private static final int OF_ACT = 2;
     private static final int OF_CHANCE = 3;
     private static final int OF_UNDO = 4;
-    private static final int OF_SEED = 5;
+    private static final int OF_SEED_OR_IMAGE = 5;
 
     private final Tape tape = new Tape();
     private final Question question = new Question();
@@ -434,7 +435,7 @@ public final class KingsTest {
     /** The seed. */
     public boolean seed(int seed) {
         if (seed < 0) {
-            refuse(OF_SEED);
+            refuse(OF_SEED_OR_IMAGE);
             return false;
         }
         drawn = seed;
@@ -475,9 +476,9 @@ public final class KingsTest {
         for (int i = 0; i < 2 * court.marks; i++) {
             addToImage(state.looks[i]);
         }
-        int check = 61;
+        int check = FIRST_CHECK;
         for (int i = 0; i < imageLength; i++) {
-            check = (3 * check + imageBytes[i]) % 251;
+            check = checkBehind(check, imageBytes[i]);
         }
         addToImage(check);
         return imageLength;
@@ -494,7 +495,7 @@ public final class KingsTest {
         if (fits) {
             takeImage();
         } else {
-            refuse(OF_SEED);
+            refuse(OF_SEED_OR_IMAGE);
         }
         tape.length = 0;
         return fits;
@@ -666,6 +667,10 @@ public final class KingsTest {
         return true;
     }
 
+    private static int checkBehind(int check, int octet) {
+        return (3 * check + octet) % 251;
+    }
+
     private void addToImage(int octet) {
         if (imageLength < imageBytes.length) {
             imageBytes[imageLength] = octet;
@@ -686,9 +691,9 @@ public final class KingsTest {
                 return false;
             }
         }
-        int check = 61;
+        int check = FIRST_CHECK;
         for (int i = 0; i < length - 1; i++) {
-            check = (3 * check + tape.byteAt(i)) % 251;
+            check = checkBehind(check, tape.byteAt(i));
         }
         return tape.byteAt(length - 1) == check;
     }
