@@ -1699,11 +1699,16 @@ public final class KingsTest {
             return best;
         }
 
+        // no set with a test that is heard in this case can be: SURE is of tests yet to be heard
+        boolean isSure(int set, int heard) {
+            return (set & heard) == 0 && total() > 0 && rightOf(set) == total();
+        }
+
         int sureSet(Court court, int heard) {
             int best = NONE;
             int least = 0;
             for (int set = 0; set < 1 << court.tests && total() > 0; set++) {
-                if ((set & heard) != 0 || rightOf(set) != total()) {
+                if (!isSure(set, heard)) {
                     continue;
                 }
                 int harm = court.harmOf(set);
@@ -1732,13 +1737,12 @@ public final class KingsTest {
         }
 
         void setValues(Court court, State state, Worlds worlds, int test) {
-            boolean weighs = worlds.total() > 0;
-            boolean heard = state.answers[test] != 0;
+            boolean hasMerit = worlds.total() > 0 && state.answers[test] == 0;
             values[NUMBER] = test;
             values[HARM] = court.testRows[test][1];
             values[HEARD] = state.times[test];
-            values[MERIT] = weighs && !heard ? (int) worlds.meritOf(court, 1 << test) : 0;
-            values[SURE] = weighs && worlds.rightOf(1 << test) == worlds.total() ? 1 : 0;
+            values[MERIT] = hasMerit ? (int) worlds.meritOf(court, 1 << test) : 0;
+            values[SURE] = worlds.isSure(1 << test, state.heardBits()) ? 1 : 0;
             int bits = court.yieldBits(test, state.times[test]);
             for (int kind = 0; kind < MOST_KINDS; kind++) {
                 int yielding = (bits >> 2 * kind & 1) + (bits >> 2 * kind + 1 & 1);

@@ -1023,8 +1023,9 @@ final class Model {
         values.put("number", (long) test);
         values.put("harm", (long) law.tests.get(test).harm());
         values.put("heard", (long) now.times[test]);
-        values.put("merit", all == 0 || now.answers[test] != null ? 0L : merit(now, 1 << test));
-        values.put("sure", all != 0 && right(now, 1 << test) == all ? 1L : 0L);
+        boolean asked = all != 0 && free(now).contains(1 << test);
+        values.put("merit", asked ? merit(now, 1 << test) : 0L);
+        values.put("sure", asked && right(now, 1 << test) == all ? 1L : 0L);
         for (int kind = 0; kind < law.kinds.size(); kind++) {
             values.put("kind " + kind, (long) yields(kind, test, 0) + yields(kind, test, 1));
         }

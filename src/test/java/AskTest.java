@@ -91,9 +91,25 @@ public final class AskTest {
         Checks.dueAsked(x, "total heard*10+number", 11);
         Checks.dueAsked(x, "least merit", 861666);
         x.hear(0, 1, 0);
-        // behind each of them RIGHT is all now
-        Checks.dueAsked(x, "total sure", 2);
+        // RIGHT is all already, but a test that is heard is none that can be SURE
+        Checks.due("20: none is needed", x.sure(0), 0);
+        Checks.dueAsked(x, "total sure", 1);
+        Checks.dueAsked(x, "first sure=1", 1);
+        x.hear(1, 0, 1);
+        Checks.dueAsked(x, "total sure", 0);
+        x.undo();
+        Checks.dueAsked(x, "total sure*10+number", 11);
+        x.undo();
+        Checks.dueAsked(x, "total sure", 1);
+        x.hear(0, 1, 0);
         Checks.dueAsked(x, "total merit", 980000);
+        x.judge(0);
+        Checks.dueAsked(x, "often sure=1 or sure=0", 2);
+        Checks.dueAsked(x, "total sure", 1);
+        // heard by an image
+        Checks.onChecked(x, 0, 0, 0, 0, 0, 2, 0, 0, 0, 0);
+        Checks.dueAsked(x, "total sure", 1);
+        Checks.dueAsked(x, "last sure=1", 1);
     }
 
     private static void noWorld() {
