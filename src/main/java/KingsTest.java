@@ -1088,7 +1088,7 @@ public final class KingsTest {
             return asked;
         }
 
-        void readTest(int open) {
+        private void readTest(int open) {
             readBoth(open);
             for (int i = 0; i < MOST_BYTES && reader.isAt(OR); i++) {
                 reader.next();

@@ -6,8 +6,13 @@ import java.lang.reflect.Modifier;
 import java.nio.file.Files;
 import java.nio.file.Path;
 import java.util.Arrays;
+import java.util.HashMap;
+import java.util.HashSet;
+import java.util.Map;
 import java.util.Set;
 import java.util.TreeSet;
+import java.util.regex.Matcher;
+import java.util.regex.Pattern;
 
 /** The public face, and what of the program's language can be seen without a compiler of its own. */
 public final class FaceTest {
@@ -19,11 +24,17 @@ public final class FaceTest {
         "int judge(int)", "int chance(int)", "boolean undo()", "boolean seed(int)", "long ask()", "int image()", "int octet(int)",
         "boolean on()", "int status(int)"};
 
+    // a method's head, its body's lines, and the end at the head's own indentation
+    private static final Pattern METHOD =
+        Pattern.compile("(?m)^( {4}| {8})((?:\\w+ )*)(?:[\\w\\[\\]]+ )(\\w+)\\(([^()]*)\\) \\{\n((?:.*\n)*?)\\1\\}$");
+    private static final Pattern CALLED = Pattern.compile("(?<![\\w.])(\\w+)\\(");
+
     public static void main(String[] args) throws IOException {
         methods();
         fields();
         nested();
         words();
+        methodsInTheText();
         Checks.finish();
     }
 
@@ -105,5 +116,42 @@ public final class FaceTest {
             made += makes ? 1 : 0;
         }
         Checks.due("nothing is made in passing", made, 0);
+    }
+
+    private static void methodsInTheText() throws IOException {
+        String text = Files.readString(Path.of("src/main/java/KingsTest.java"));
+        int seen = 0;
+        for (String one : text.split("(?m)^    private static final class ")) {
+            Map<String, Set<String>> calls = new HashMap<>();
+            Set<String> hidden = new HashSet<>();
+            for (Matcher method = METHOD.matcher(one); method.find();) {
+                seen++;
+                String name = method.group(3);
+                String body = method.group(5);
+                Checks.due("11: lines of " + name, body.split("\n").length <= 58, true);
+                Checks.due("11: parameters of " + name, method.group(4).split(",").length <= 7, true);
+                Set<String> called = calls.computeIfAbsent(name, none -> new HashSet<>());
+                for (Matcher call = CALLED.matcher(body); call.find();) {
+                    called.add(call.group(1));
+                }
+                if (method.group(2).contains("private ")) {
+                    hidden.add(name);
+                }
+            }
+            for (String name : calls.keySet()) {
+                boolean again = reaches(calls, name, name, new HashSet<>());
+                Checks.due("8: recursion by private methods alone: " + name, !again || hidden.contains(name), true);
+            }
+        }
+        Checks.due("the methods of all classes are seen", seen > 130, true);
+    }
+
+    private static boolean reaches(Map<String, Set<String>> calls, String from, String to, Set<String> been) {
+        for (String next : calls.getOrDefault(from, Set.of())) {
+            if (next.equals(to) || been.add(next) && reaches(calls, next, to, been)) {
+                return true;
+            }
+        }
+        return false;
     }
 }
